@@ -656,17 +656,11 @@ public final class SealedSpots {
 
         int takeBack(int bidder, int spot) {
             int fee = feeFor(bidder, spot);
-            dropBid(placeOfBid(bidder, spot));
+            put(AMOUNT, placeOfBid(bidder, spot), 0);
             putInChest(bidder, fee);
             add(FEES, bidder, fee);
             add(WITHDRAWN, 0, 1);
             return fee;
-        }
-
-        private void dropBid(int place) {
-            put(AMOUNT, place, 0);
-            put(SEAL, place, 0);
-            put(SEAL_HOUR, place, 0);
         }
 
         private void putInChest(int bidder, int coins) {
@@ -737,9 +731,7 @@ public final class SealedSpots {
                 add(FISH, spot, more);
                 come += more;
             }
-            for (int place = 0; place < BIDDERS * SPOTS; place++) {
-                dropBid(place);
-            }
+            fill(AMOUNT, BIDDERS * SPOTS, 0);
             fill(OWNER, SPOTS, NONE);
             fill(PAID, SPOTS, NONE);
             put(HOUR, 0, 0);

@@ -392,6 +392,12 @@ public final class PromiseTest {
         check.same("fish at spot 1", x.spot(1, 1), 23);
         x = new SealedSpots();
         x.set(2, 0);
+        emptySpot(x, 0, 6);
+        emptySpot(x, 1, 1);
+        check.same("fish at spot 1", x.spot(1, 1), 67);
+        check.same("fish at spot 0", x.spot(0, 1), 23);
+        x = new SealedSpots();
+        x.set(2, 0);
         emptySpot(x, 4, 6);
         emptySpot(x, 5, 1);
         check.same("fish at spot 5", x.spot(5, 1), 67);
@@ -403,6 +409,17 @@ public final class PromiseTest {
         // 74 are left at each: no fewer there.
         check.same("fish at spot 0", x.spot(0, 1), 74);
         check.same("fish at spot 1", x.spot(1, 1), 74);
+        x = new SealedSpots();
+        x.set(2, 0);
+        emptySpot(x, 1, 7);
+        emptySpot(x, 4, 7);
+        emptySpot(x, 3, 1);
+        emptySpot(x, 2, 1);
+        // 7 of the 74 at spot 3 went to spot 4. So did 7 of the 74 at spot 2 to spot 1: then spot 3 has no fewer.
+        check.same("fish at spot 4", x.spot(4, 1), 18);
+        check.same("fish at spot 1", x.spot(1, 1), 18);
+        check.same("fish at spot 2", x.spot(2, 1), 67);
+        check.same("fish at spot 3", x.spot(3, 1), 67);
     }
 
     /** Bidder 5 gets the spot, fishes so often, and the next day comes. */
@@ -778,6 +795,10 @@ public final class PromiseTest {
         x.open();
         check.same("why(1, 1, 98), all reasons", x.why(1, 1, 98), 1);
         check.same("why(1, 0, 30) behind the opening", x.why(1, 0, 30), 1);
+        x.nextDay();
+        x.price(0, 0);
+        check.same("why(1, 0, 1)", x.why(1, 0, 1), 0);
+        check.same("why(3, 0, 99)", x.why(3, 0, 99), 0);
         for (int place : NO_PLACE) {
             check.throwing(x, "why(" + place + ", 0, 0)", INDEX, () -> x.why(place, 0, 0));
             check.throwing(x, "why(0, " + place + ", 0)", INDEX, () -> x.why(0, place, 0));
@@ -846,6 +867,8 @@ public final class PromiseTest {
         x.price(0, 56);
         opened(x, 0, NONE, NONE);
         opened(x, 1, 0, 5 + 15);
+        x.price(5, 0);
+        opened(x, 5, NONE, NONE);
         for (int spot : NO_PLACE) {
             check.throwing(x, "ifOpened(" + spot + ", 2)", INDEX, () -> x.ifOpened(spot, 2));
         }
@@ -886,6 +909,8 @@ public final class PromiseTest {
         // Bidder 0 paid 20: its purse of 80 is what counts then.
         brings(x, 0, 3, 81, 0, 20);
         brings(x, 0, 3, 80, 3, 5);
+        x.price(5, 0);
+        brings(x, 3, 5, 1, 5, 0);
         for (int place : NO_PLACE) {
             check.throwing(x, "ifBid(" + place + ", 0, 0, 2)", INDEX, () -> x.ifBid(place, 0, 0, 2));
             check.throwing(x, "ifBid(0, " + place + ", 0, 2)", INDEX, () -> x.ifBid(0, place, 0, 2));
@@ -1004,6 +1029,11 @@ public final class PromiseTest {
         x.pay(3, 77);
         run(x, "b0199;b1299;b3599;b5120");
         check.same("digest() of the next day", x.digest(), hashOf(x, true, ""));
+        for (int rival = 0; rival < 6; rival++) {
+            SealedSpots y = new SealedSpots();
+            y.bid(rival, 2, 20);
+            check.same("digest() with a rival of bidder 1", y.digest(), hashOf(y, false, ""));
+        }
     }
 
     /** The digest by the words of the promise, from the other calls. */
