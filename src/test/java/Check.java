@@ -4,8 +4,18 @@ final class Check {
         long answer();
     }
 
+    private String test = "";
     private int right;
     private int wrong;
+
+    /** What is judged from here on is told as of this test. */
+    void begin(String name) {
+        test = name + ": ";
+    }
+
+    int judged() {
+        return right + wrong;
+    }
 
     void same(String call, long got, long due) {
         judge(got == due, call + " answered " + got + ", due is " + due);
@@ -22,7 +32,8 @@ final class Check {
         same("digest() behind " + call, x.digest(), before);
     }
 
-    private static int kindOf(Call made) {
+    /** 0 for an answer, 1 to 3 for the exceptions of the document in the order of their clauses, 4 for any other. */
+    static int kindOf(Call made) {
         try {
             made.answer();
             return 0;
@@ -31,7 +42,7 @@ final class Check {
         }
     }
 
-    private static int kindOf(Class<?> exception) {
+    static int kindOf(Class<?> exception) {
         if (exception == IndexOutOfBoundsException.class) {
             return 1;
         }
@@ -47,7 +58,7 @@ final class Check {
         } else {
             wrong++;
             if (wrong <= 40) {
-                System.out.println(told);
+                System.out.println(test + told);
             }
         }
     }

@@ -1,12 +1,16 @@
 /** Long runs of calls, each answered by the class and by the model of the document. */
 public final class ModelTest {
-    private static final int RUNS = 260;
-    private static final int CALLS = 400;
+    private static final int RUNS = 400;
+    /** The document promises nothing of later calls. */
+    private static final int CALLS = 512;
+    /** The most of a step: a clearing and a text of 60 characters, a call and a digest. */
+    private static final int CALLS_OF_A_STEP = 63;
 
     private final SealedSpots x = new SealedSpots();
     private final Model model = new Model();
     private final StringBuilder told = new StringBuilder();
     private long seed;
+    private int calls;
     private int kind;
     private final int[] a = new int[4];
 
@@ -20,7 +24,7 @@ public final class ModelTest {
         for (int run = 1; run <= RUNS && wrong < 3; run++) {
             ModelTest test = new ModelTest(run);
             String fault = test.run(run % 4);
-            calls += CALLS;
+            calls += test.calls;
             if (fault != null) {
                 wrong++;
                 System.out.println("run " + run + ": " + fault);
@@ -50,20 +54,24 @@ public final class ModelTest {
     }
 
     private String run(int style) {
-        for (int i = 0; i < CALLS; i++) {
+        for (int i = 0; calls + CALLS_OF_A_STEP <= CALLS; i++) {
             if (style == 3 && below(12) == 0) {
                 type();
             }
             choose(style);
             long due = outcome(false);
             long got = outcome(true);
+            calls++;
             told.append(kind).append('(').append(a[0]).append(", ").append(a[1]).append(", ").append(a[2])
                     .append(", ").append(a[3]).append(") ");
             if (due != got) {
                 return told + " answered " + got + ", due is " + due;
             }
-            if ((style != 0 || i % 5 == 0) && x.digest() != model.digest()) {
-                return told + " digests differ";
+            if (style != 0 || i % 5 == 0) {
+                calls++;
+                if (x.digest() != model.digest()) {
+                    return told + " digests differ";
+                }
             }
         }
         return null;
@@ -92,6 +100,7 @@ public final class ModelTest {
     }
 
     private void type() {
+        calls++;
         x.clearBuffer();
         model.clearBuffer();
         int parts = 1 + below(9);
@@ -113,6 +122,7 @@ public final class ModelTest {
         }
         for (int i = 0; i < text.length() && i < 60; i++) {
             if (text.charAt(i) > 32) {
+                calls++;
                 x.append(text.charAt(i));
                 model.append(text.charAt(i));
             }

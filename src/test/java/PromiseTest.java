@@ -33,7 +33,6 @@ public final class PromiseTest {
         test.promise15();
         test.promise16();
         test.promise17();
-        test.promise17EachCall();
         test.promise18();
         test.promise19();
         test.promise20();
@@ -493,32 +492,31 @@ public final class PromiseTest {
     }
 
     private void promise13() {
-        SealedSpots x = new SealedSpots();
         String[] good = {"", "b", "b0", "b05", "b051", "b0519", "b0599", "b551;", "w", "w5", "w55", "w00;", "h", "h1",
             "h10", "h19", "h2", "h20", "h23", "h3", "h9", "o", "o;", "f", "f5", "n", "n;n", "o;f0;f0;n;b0011;h2;w00",
             "n;n;n;n;n;n;n;n;n;n;n;n;n;n;n;n;n;n;n;n;n;n;n;n;n;n;n;n;n;n;"};
         for (String text : good) {
-            type(x, text);
-            check.same("firstError() of " + text, x.firstError(), text.length());
+            check.same("firstError() of " + text, errorOf(text), text.length());
         }
         String[] bad = {"!", ";", "x", "B", "0", "b6", "b/", "b:", "b06", "b0;", "b000", "b00/", "b00:", "b00;",
             "b001:", "b001/", "b00123", "w6", "w06", "w00;;", "w000", "h0", "h;", "h24", "h29", "h30", "h99", "h1:",
             "h100", "h200", "oo", "of", "f6", "f;", "f00", "n0", "n;;", "o;x", "b0011,", "n;b0011;h24"};
         for (String text : bad) {
-            type(x, text);
-            check.same("firstError() of " + text, x.firstError(), text.length() - 1);
-            if (text.length() < 50) {
-                type(x, text + "o;n");
-                check.same("firstError() of more than " + text, x.firstError(), text.length() - 1);
-            }
+            check.same("firstError() of " + text, errorOf(text), text.length() - 1);
+            check.same("firstError() of more than " + text, errorOf(text + "o;n"), text.length() - 1);
         }
-        check.same("saved states", x.count(14), 0);
+    }
+
+    private static int errorOf(String text) {
+        SealedSpots x = new SealedSpots();
+        type(x, text);
+        return x.firstError();
     }
 
     private void promise14() {
         SealedSpots x = new SealedSpots();
-        String[] incomplete = {"", "b", "b0", "b00", "w", "w0", "h", "f", "o;", "b0010;", "x", "o;x", "oo", "h24", "b000",
-            "n;b00"};
+        String[] incomplete = {"", "b", "b0", "b00", "w", "w0", "h", "f", "o;", "b0010;", "x", "o;x", "oo", "h24",
+            "b000", "n;b00"};
         for (String text : incomplete) {
             type(x, text);
             check.throwing(x, "run() of " + text, ARGUMENT, () -> x.run());
@@ -644,40 +642,6 @@ public final class PromiseTest {
         check.same("the price", x.spot(0, 0), 11);
         check.throwing(x, "price(0, 100)", ARGUMENT, () -> x.price(0, 100));
         check.same("a call that throws saves nothing", x.count(14), 0);
-    }
-
-    private void promise17EachCall() {
-        SealedSpots x = new SealedSpots();
-        x.keep();
-        Check.Call[] calls = {() -> x.price(1, 7), () -> x.pay(1, 7), () -> x.set(1, 7), () -> x.bid(1, 1, 70),
-            () -> x.bid(2, 2, 70), () -> x.withdraw(1, 1), () -> x.pause(7), () -> x.open(), () -> x.fish(2),
-            () -> x.nextDay(), () -> x.goBack()};
-        for (Check.Call call : calls) {
-            long before = withoutSaved(x);
-            call.answer();
-            x.undo();
-            check.same("the state behind undo()", withoutSaved(x), before);
-            call.answer();
-        }
-        check.same("saved states", x.count(14), 6);
-    }
-
-    /** The digest of the state with no saved state in it, but for none is undone here. */
-    private static long withoutSaved(SealedSpots x) {
-        long hash = 0;
-        for (int what = 0; what < 14; what++) {
-            hash = 31 * hash + x.count(what);
-        }
-        for (int i = 0; i < 6; i++) {
-            for (int what = 0; what < 6; what++) {
-                hash = 31 * hash + x.spot(i, what);
-                hash = 31 * hash + x.bidder(i, what);
-                for (int kind = 0; kind < 5; kind++) {
-                    hash = 31 * hash + x.sealed(i, what, kind);
-                }
-            }
-        }
-        return 31 * hash + x.setting(0) + 100 * x.setting(1) + 10000 * x.setting(2);
     }
 
     private void promise18() {
@@ -1014,68 +978,23 @@ public final class PromiseTest {
 
     private void promise31() {
         SealedSpots x = new SealedSpots();
-        check.same("digest() of a new object", x.digest(), hashOf(x, false, ""));
         long before = x.digest();
         check.same("digest() again", x.digest(), before);
-        run(x, "b0030;b1025;b1110;b2210;b2320;h2;w23");
-        check.same("digest() of bids", x.digest(), hashOf(x, false, ""));
-        x.keep();
-        check.same("digest() with a snapshot", x.digest(), hashOf(x, true, ""));
-        run(x, "o;f0;f1;f1");
-        type(x, "~!b0;");
-        check.same("digest() of an opening and a buffer", x.digest(), hashOf(x, true, "~!b0;"));
-        x.nextDay();
-        x.clearBuffer();
-        x.pay(3, 77);
-        run(x, "b0199;b1299;b3599;b5120");
-        check.same("digest() of the next day", x.digest(), hashOf(x, true, ""));
-        for (int rival = 0; rival < 6; rival++) {
+        check.same("digest() of a new object", before, Hash.of(x, false, ""));
+        String[] texts = {"b0030;b1025;b1110;b2210;b2320;h2;w23", "o", "f0;f1;f1", "n;b0199;b1299;b3599;b5120"};
+        for (int last = 0; last < texts.length; last++) {
             SealedSpots y = new SealedSpots();
-            y.bid(rival, 2, 20);
-            check.same("digest() with a rival of bidder 1", y.digest(), hashOf(y, false, ""));
-        }
-    }
-
-    /** The digest by the words of the promise, from the other calls. */
-    private static long hashOf(SealedSpots x, boolean snapshot, String buffer) {
-        java.util.List<Long> values = new java.util.ArrayList<>();
-        for (int what = 0; what <= 14; what++) {
-            values.add((long) x.count(what));
-        }
-        for (int setting = 0; setting <= 2; setting++) {
-            values.add((long) x.setting(setting));
-        }
-        for (int spot = 0; spot < 6; spot++) {
-            for (int what = 0; what < 6; what++) {
-                values.add((long) x.spot(spot, what));
+            for (int i = 0; i <= last; i++) {
+                run(y, texts[i]);
             }
-            values.add((long) x.ifOpened(spot, 0));
-            values.add((long) x.ifOpened(spot, 1));
+            check.same("digest() behind " + texts[last], y.digest(), Hash.of(y, false, ""));
         }
-        for (int i = 0; i < 36; i++) {
-            values.add((long) x.bidder(i / 6, i % 6));
-        }
-        for (int i = 0; i < 180; i++) {
-            values.add((long) x.sealed(i / 30, i / 5 % 6, i % 5));
-        }
-        for (int i = 0; i < 14; i++) {
-            values.add((long) x.worth(i / 2, i % 2));
-        }
-        values.add((long) x.ifBid(1, 2, 20, 0));
-        values.add((long) x.ifBid(1, 2, 20, 1));
-        values.add((long) x.least(0, 0));
-        values.add((long) x.keenest());
-        values.add(Double.doubleToLongBits(x.chestShare()));
-        values.add((long) Float.floatToIntBits(x.meanPrice()));
-        values.add(snapshot ? 1L : 0L);
-        values.add((long) buffer.length());
-        for (int i = 0; i < buffer.length(); i++) {
-            values.add((long) buffer.charAt(i));
-        }
-        long hash = 3797;
-        for (long value : values) {
-            hash = 31 * hash + value;
-        }
-        return hash;
+        x.keep();
+        type(x, "~!b0;");
+        check.same("digest() of a snapshot and a buffer", x.digest() == before ? 1 : 0, 0);
+        SealedSpots z = new SealedSpots();
+        z.keep();
+        type(z, "~!b0;");
+        check.same("digest() of a snapshot and a buffer", z.digest(), Hash.of(z, true, "~!b0;"));
     }
 }
