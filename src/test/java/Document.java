@@ -73,7 +73,7 @@ final class Document {
 
     private static void addSentences(String line, List<String> sentences) {
         String text = line.replaceFirst("^- ", "").replaceFirst("^`[^`]*\\([^`]*`: ", "").strip();
-        for (String sentence : text.split("(?<=\\.) +(?=[A-Z])")) {
+        for (String sentence : text.split("[.;]( +|$)")) {
             if (!sentence.isEmpty()) {
                 sentences.add(sentence);
             }

@@ -28,6 +28,7 @@ final class LookSentences extends Sentences {
         chestShare();
         meanPrice();
         digest();
+        digestOfNumbers();
         digestOfState();
     }
 
@@ -174,6 +175,12 @@ final class LookSentences extends Sentences {
                 for (int bidder = 0; bidder < 6; bidder++) {
                     same("the spot of bidder " + bidder, y.bidder(bidder, 3), bidder == 1 ? 0 : NONE);
                 }
+            }
+            SealedSpots few = new SealedSpots();
+            run(few, "b359;o");
+            for (int left = 100; left > 0; left = few.spot(5, 1)) {
+                few.fish(5);
+                same("the spot, whatever fish it has", few.bidder(3, 3), 5);
             }
         });
         test(19, "4: prices paid so far", x -> {
@@ -573,9 +580,7 @@ final class LookSentences extends Sentences {
         });
         test(24, "`way`: 0: told by trying all sharings, spot by spot; 1: told by sets of bidders: for each set the"
                 + " most that the first spots can bring to bidders of this set", x -> {
-                    for (int i = 0; i < 36; i++) {
-                        x.bid(i / 6, i % 6, 9 + i * 29 % 37);
-                    }
+                    allBids(x);
                     for (int without = 0; without <= 6; without++) {
                         same("worth(" + without + ", 1)", x.worth(without, 1), x.worth(without, 0));
                     }
@@ -620,7 +625,7 @@ final class LookSentences extends Sentences {
             same("ifOpened(5, 0)", x.ifOpened(5, 0), 3);
             same("ifOpened(1, 0)", x.ifOpened(1, 0), NONE);
         });
-        test(25, "0: the bidder; 1: what it would pay", x -> {
+        test(25, "`what`: 0: the bidder; 1: what it would pay", x -> {
             x.price(5, 0);
             run(x, "b0530;b5030;b4020");
             same("bidder 0", x.ifOpened(5, 0), 0);
@@ -757,12 +762,14 @@ final class LookSentences extends Sentences {
             same("a spot behind that of its bid", y.least(1, 4), 31);
         });
         test(27, "as ifBid() tells it", x -> {
-            run(x, "b0020;b0130;b1025;b2140;b3235;b4015");
-            for (int bidder = 0; bidder < 6; bidder++) {
-                int spot = bidder % 3;
-                int least = x.least(bidder, spot);
-                same("ifBid() of it", x.ifBid(bidder, spot, least, 0), spot);
-                isTrue("another answer below it", x.ifBid(bidder, spot, least - 1, 0) != spot);
+            for (int i = 0; i < 36; i++) {
+                leastByTrying(y -> run(y, "b0020;b0130;b1025;b2540;b3535;b4015"), i / 6, i % 6);
+                leastByTrying(LookSentences::allBids, i / 6, i % 6);
+                leastByTrying(y -> {
+                    allBids(y);
+                    y.open();
+                    y.price(5, 0);
+                }, i / 6, i % 6);
             }
         });
         test(27, "NONE if there is none", x -> {
@@ -784,6 +791,22 @@ final class LookSentences extends Sentences {
             refusedFor(NO_PLACE, "least(#, 0)", INDEX, NEW, (y, bidder) -> y.least(bidder, 0));
             refusedFor(NO_PLACE, "least(0, #)", INDEX, OPENED, (y, spot) -> y.least(0, spot));
         });
+    }
+
+    private static void leastByTrying(Consumer<SealedSpots> made, int bidder, int spot) {
+        SealedSpots x = make(made);
+        int due = NONE;
+        for (int amount = 1; amount <= 99 && due == NONE; amount++) {
+            due = x.ifBid(bidder, spot, amount, 0) == spot ? amount : NONE;
+        }
+        same("least(" + bidder + ", " + spot + ")", x.least(bidder, spot), due);
+    }
+
+    /** A bid of each bidder for each spot, of 9 to 45. */
+    private static void allBids(SealedSpots x) {
+        for (int i = 0; i < 36; i++) {
+            x.bid(i / 6, i % 6, 9 + i * 29 % 37);
+        }
     }
 
     private void keenest() {
@@ -916,6 +939,56 @@ final class LookSentences extends Sentences {
         });
     }
 
+    private void digestOfNumbers() {
+        Consumer<SealedSpots> rich = x -> {
+            for (int i = 0; i < 6; i++) {
+                x.price(i, 3 + i);
+                x.pay(i, 10 + 7 * i);
+            }
+            run(x, "b0050;b1160;b2270;b0120;h3;w00;b3340;b3030;h4;w33;o;f2");
+        };
+        test(31, "The values are: count(0) to count(14)", x -> {
+            hashed("of counts that differ", rich);
+            hashed("of counts of the next day", rich.andThen(y -> run(y, "n;h5;b4420;o;h1")));
+        });
+        test(31, "the settings 0 to 2", x -> {
+            hashed("of the least", y -> settings(y, 0, 0, 0));
+            hashed("of the most", y -> settings(y, 20, 9, 50));
+            hashed("of others", y -> settings(y, 4, 5, 6));
+        });
+        test(31, "for each spot its numbers 0 to 5, and ifOpened with 0 and 1", x -> {
+            hashed("before an opening", rich.andThen(y -> run(y, "n;b0130;b1120;b5590;b4590")));
+            hashed("behind an opening", rich.andThen(y -> run(y, "n;b0130;b1120;b5590;b4590;o;f5;f1;f1")));
+        });
+        test(31, "for each bidder its numbers 0 to 5", x -> {
+            hashed("before an opening", rich.andThen(y -> run(y, "n;b0130;b0230;b1120;b5590;h9;w02")));
+            hashed("behind an opening", rich.andThen(y -> run(y, "n;b0130;b0230;b1120;b5590;o;f5;f1")));
+        });
+        test(31, "for each bidder and each spot sealed with 0 to 4", x -> {
+            Consumer<SealedSpots> hours = y -> {
+                for (int i = 0; i < 36; i++) {
+                    y.bid(i % 6, i / 6, 9 + i);
+                    if (i % 2 == 0) {
+                        y.pause(1);
+                    }
+                }
+                settings(y, 20, 9, 10);
+            };
+            hashed("of bids not opened", hours);
+            hashed("of bids that are opened", hours.andThen(y -> y.open()));
+        });
+        test(31, "worth without the bidders 0 to 6, each told both ways", x -> {
+            hashed("of worths that differ", y -> run(y, "b0020;b1121;b2222;b3323;b4424;b5525"));
+            hashed("of bids that no longer count", y -> run(y, "b0080;b1070;b1160;b2150;o"));
+        });
+    }
+
+    private static void settings(SealedSpots x, int fee, int feeForHour, int fish) {
+        x.set(0, fee);
+        x.set(1, feeForHour);
+        x.set(2, fish);
+    }
+
     private void digestOfState() {
         test(31, "1 if there is a snapshot, otherwise 0", x -> {
             Consumer<SealedSpots> kept = y -> {
@@ -950,13 +1023,9 @@ final class LookSentences extends Sentences {
         });
         test(31, "Returns the hash.", x -> {
             same("of one new object as of another", x.digest(), new SealedSpots().digest());
-            Consumer<SealedSpots> full = y -> {
-                for (int i = 0; i < 36; i++) {
-                    y.bid(i / 6, i % 6, 9 + i * 29 % 37);
-                }
-            };
-            hashed("of 36 bids", full);
-            hashed("of six spots", full.andThen(y -> y.open()));
+            Consumer<SealedSpots> all = LookSentences::allBids;
+            hashed("of 36 bids", all);
+            hashed("of six spots", all.andThen(y -> y.open()));
         });
     }
 }

@@ -59,6 +59,14 @@ final class TermsSentences extends Sentences {
             }
             same("count(0), the 512th call", x.count(0), 512);
         });
+        test(30, "All numbers are integers, but for two shares", x -> {
+            run(x, "b0030;b1025;b2210;o");
+            isTrue("30 of 600 as a share", x.chestShare() == 0.05);
+            isTrue("30 for 2 as a share", x.meanPrice() == 15.0f);
+            run(x, "n;b3010;o");
+            isTrue("35 of 600 as a share", x.chestShare() == 35.0 / 600.0 && x.chestShare() > 0.05);
+            isTrue("35 for 3 as a share", x.meanPrice() > 11.6f && x.meanPrice() < 11.7f);
+        });
         test(9, "divisions are rounded down", x -> {
             x.set(2, 3);
             x.nextDay();
@@ -74,7 +82,7 @@ final class TermsSentences extends Sentences {
             same("57 and a tenth of 77", x.spot(0, 1), 64);
             same("77 less its tenth", x.spot(1, 1), 70);
         });
-        test(18, "There is nothing to return.", x -> {
+        test(18, "`NONE = -1`: There is nothing to return", x -> {
             same("NONE", SealedSpots.NONE, -1);
             same("who got a spot", x.spot(0, 2), -1);
         });
