@@ -108,6 +108,16 @@ final class LookSentences extends Sentences {
                 same("spot(3, " + what + ")", x.spot(3, what), due[what]);
             }
         });
+        test(18, "Tells something of a spot.", x -> {
+            eachItsOwn(x);
+            int[] fish = {74, 55, 41, 30, 22, 16};
+            for (int spot = 0; spot < 6; spot++) {
+                int[] due = {20 + spot, fish[spot], (spot + 4) % 6, 3 + spot, spot + 1, 100 - fish[spot]};
+                for (int what = 0; what < 6; what++) {
+                    same("spot(" + spot + ", " + what + ")", x.spot(spot, what), due[what]);
+                }
+            }
+        });
         test(18, "`spot`: 0 to 5", x -> {
             x.price(0, 7);
             x.price(5, 8);
@@ -208,6 +218,19 @@ final class LookSentences extends Sentences {
             int[] due = {80, 26, 1, 3, 15, 5};
             for (int what = 0; what < 6; what++) {
                 same("bidder(1, " + what + ")", x.bidder(1, what), due[what]);
+            }
+        });
+        test(19, "Tells something of a bidder.", x -> {
+            eachItsOwn(x);
+            int[] caught = {59, 70, 78, 84, 26, 45};
+            int[] bids = {5, 4, 4, 3, 3, 2};
+            for (int bidder = 0; bidder < 6; bidder++) {
+                int got = (bidder + 2) % 6;
+                int fee = 9 + bidder;
+                int[] due = {100 - fee - 3 - got, caught[bidder], bids[bidder], got, 3 + got, fee};
+                for (int what = 0; what < 6; what++) {
+                    same("bidder(" + bidder + ", " + what + ")", x.bidder(bidder, what), due[what]);
+                }
             }
         });
         test(19, "`bidder`: 0 to 5", x -> {
@@ -442,7 +465,45 @@ final class LookSentences extends Sentences {
             same("fees of two days", x.count(7), 7);
             same("prices of two days", x.count(8), 25);
             same("both are in the chest", x.count(4), 32);
+            SealedSpots y = make(LookSentences::eachItsOwn);
+            same("fees of all bidders", y.count(7), 9 + 10 + 11 + 12 + 13 + 14);
+            same("prices of all bidders", y.count(8), 3 + 4 + 5 + 6 + 7 + 8);
+            same("all in the chest", y.count(4), 69 + 33);
+            same("the purses", y.count(5), 600 - 69 - 33);
+            same("the catches of all bidders", y.count(11), 26 + 45 + 59 + 70 + 78 + 84);
+            same("the fish at all spots", y.count(10), 600 - 362);
+            same("sealed, those that were withdrawn too", y.count(12), 6 + 21);
         });
+    }
+
+    /**
+     * Each spot and each bidder has numbers of its own: bidder b withdraws a bid for 9 and b, and gets the spot s, that
+     * of b and 2, for 3 and s; there are s others with a bid for it; it is fished there s and 1 times; then the price
+     * there is 20 and s.
+     */
+    private static void eachItsOwn(SealedSpots x) {
+        for (int bidder = 0; bidder < 6; bidder++) {
+            payFee(x, bidder, bidder, 9 + bidder);
+        }
+        for (int spot = 0; spot < 6; spot++) {
+            int owner = (spot + 4) % 6;
+            x.price(spot, 3 + spot);
+            x.bid(owner, spot, 30 + spot);
+            int others = 0;
+            for (int bidder = 0; others < spot; bidder++) {
+                if (bidder != owner) {
+                    x.bid(bidder, spot, 3 + spot);
+                    others++;
+                }
+            }
+        }
+        x.open();
+        for (int spot = 0; spot < 6; spot++) {
+            for (int i = 0; i <= spot; i++) {
+                x.fish(spot);
+            }
+            x.price(spot, 20 + spot);
+        }
     }
 
     private void countOfFish() {
@@ -580,9 +641,14 @@ final class LookSentences extends Sentences {
         });
         test(24, "`way`: 0: told by trying all sharings, spot by spot; 1: told by sets of bidders: for each set the"
                 + " most that the first spots can bring to bidders of this set", x -> {
-                    allBids(x);
-                    for (int without = 0; without <= 6; without++) {
-                        same("worth(" + without + ", 1)", x.worth(without, 1), x.worth(without, 0));
+                    for (int step = 1; step <= 36; step++) {
+                        SealedSpots y = new SealedSpots();
+                        for (int i = 0; i < 36; i++) {
+                            y.bid(i / 6, i % 6, 5 + step * (i + step) % 37 * (i + 1) % 41);
+                        }
+                        for (int without = 0; without <= 6; without++) {
+                            same("worth(" + without + ", 1)", y.worth(without, 1), y.worth(without, 0));
+                        }
                     }
                 });
         test(24, "Returns the worth (the same for both).", x -> {
@@ -672,6 +738,21 @@ final class LookSentences extends Sentences {
                     x.open();
                     brings(x, 0, 0, 31, 0, 30);
                 });
+        test(26, "in place of the one of this bidder for this spot, if there is one", x -> {
+            run(x, "b0030;b0110;b0210;b1120");
+            brings(x, 0, 0, 30, 0, 5);
+            // A bid that does not count stands there too; the other bids of the bidder stay.
+            brings(x, 0, 0, 4, 2, 5);
+            x.withdraw(0, 2);
+            brings(x, 0, 0, 4, NONE, NONE);
+            same("who would get it with the bid that is there", x.ifOpened(0, 0), 0);
+            brings(x, 0, 0, 98, 0, 5);
+            brings(x, 0, 0, 99, NONE, NONE);
+            // There is none of this bidder for this spot: that for another one stays.
+            brings(x, 0, 3, 4, 0, 5);
+            brings(x, 0, 3, 99, 0, 5);
+            brings(x, 0, 3, 31, 3, 5);
+        });
         test(26, "`bidder`: 0 to 5", x -> {
             brings(x, 0, 1, 9, 1, 5);
             brings(x, 5, 1, 9, 1, 5);

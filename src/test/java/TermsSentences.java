@@ -20,6 +20,12 @@ final class TermsSentences extends Sentences {
         x.withdraw(0, 0);
     };
 
+    /** Ahead of each colon what was read, behind it all characters that may come. */
+    private static final String[] MAY_COME = {":bwhofn", "b:012345", "b3:012345", "b34:123456789", "b341:0123456789;",
+        "b349:0123456789;", "b3410:;", "b3499:;", "w:012345", "w3:012345", "w34:;", "h:123456789", "h1:0123456789;",
+        "h2:0123;", "h3:;", "h9:;", "h10:;", "h19:;", "h20:;", "h23:;", "o:;", "f:012345", "f5:;", "n:;", "n;:bwhofn",
+        "b0010;:bwhofn"};
+
     @Override
     void all() {
         numbers();
@@ -44,6 +50,7 @@ final class TermsSentences extends Sentences {
         buffer();
         parts();
         syntaxErrors();
+        whatMayCome();
         undo();
         undoRestores();
         exceptions();
@@ -111,6 +118,21 @@ final class TermsSentences extends Sentences {
             run(y, "b059;o;f5");
             same("spot 0, no neighbour of 5", y.spot(0, 1), 11);
             same("spot 5", y.spot(5, 1), 74);
+        });
+        test(9, "two spots are neighbours if their numbers differ by 1", x -> {
+            for (int from = 0; from < 6; from++) {
+                for (int to = 0; to < 6; to++) {
+                    boolean neighbours = from - to == 1 || to - from == 1;
+                    SealedSpots y = new SealedSpots();
+                    y.set(2, 0);
+                    fishOut(y, to, 7);
+                    run(y, "b0" + from + "9;o;f" + from);
+                    if (to != from) {
+                        same("left at " + from + " near " + to, y.spot(from, 1), neighbours ? 67 : 74);
+                        same("fish at " + to + " near " + from, y.spot(to, 1), neighbours ? 18 : 11);
+                    }
+                }
+            }
         });
         test(2, "A spot has a least price, 0 to 99, at first 5", x -> {
             for (int spot = 0; spot < 6; spot++) {
@@ -511,6 +533,13 @@ final class TermsSentences extends Sentences {
             same("no bid at the price 0", y.spot(1, 2), NONE);
             same("a withdrawn bid at the price 0", y.spot(0, 2), NONE);
         });
+        test(8, "A sharing gives spots to bidders", x -> {
+            for (int bidder = 0; bidder < 6; bidder++) {
+                for (int spot = 0; spot < 6; spot++) {
+                    oneBid(bidder, spot, 30 + 6 * bidder + spot);
+                }
+            }
+        });
         test(24, "Its worth is that of these bids together.", x -> {
             same("of none", x.worth(6, 0), 0);
             run(x, "b0099;b1199;b2299;b3399;b4499;b5599");
@@ -520,6 +549,36 @@ final class TermsSentences extends Sentences {
             }
             same("of six, each 99, the greatest", x.worth(6, 1), 594);
         });
+    }
+
+    /** All that is told of a day with this bid alone. */
+    private static void oneBid(int bidder, int spot, int amount) {
+        SealedSpots x = new SealedSpots();
+        String bid = "the bid of " + bidder + " for " + spot + ": ";
+        x.bid(bidder, spot, amount);
+        for (int other = 0; other < 6; other++) {
+            same(bid + "ifOpened(" + other + ", 0)", x.ifOpened(other, 0), other == spot ? bidder : NONE);
+            same(bid + "ifOpened(" + other + ", 1)", x.ifOpened(other, 1), other == spot ? 5 : NONE);
+            same(bid + "worth(" + other + ", 0)", x.worth(other, 0), other == bidder ? 0 : amount - 5);
+            same(bid + "worth(" + other + ", 1)", x.worth(other, 1), other == bidder ? 0 : amount - 5);
+            same(bid + "why() of " + other, x.why(other, spot, 9), other == bidder ? 2 : 0);
+            same(bid + "why() for " + other, x.why(bidder, other, 9), other == spot ? 2 : 0);
+            int least = other < bidder ? amount : other == bidder ? 5 : amount + 1;
+            same(bid + "least() of " + other, x.least(other, spot), least);
+        }
+        same(bid + "keenest()", x.keenest(), bidder);
+        same(bid + "withdraw()", x.withdraw(bidder, spot), 2);
+        same(bid + "the worth when it is withdrawn", x.worth(6, 0), 0);
+        x.undo();
+        same(bid + "open()", x.open(), 1);
+        same(bid + "its amount", x.sealed(bidder, spot, 2), amount);
+        for (int other = 0; other < 6; other++) {
+            same(bid + "who got " + other, x.spot(other, 2), other == spot ? bidder : NONE);
+            same(bid + "what " + other + " got", x.bidder(other, 3), other == bidder ? spot : NONE);
+            same(bid + "the purse of " + other, x.bidder(other, 0), other == bidder ? 95 : 100);
+        }
+        same(bid + "fish()", x.fish(spot), 26);
+        same(bid + "the catch", x.bidder(bidder, 1), 26);
     }
 
     private void bestSharing() {
@@ -767,6 +826,35 @@ final class TermsSentences extends Sentences {
             not.fish(0);
             same("12 go to a spot that nobody got", not.spot(1, 1), 139);
         });
+        test(9, "to each neighbour with fewer fish that nobody got, first to the lower one; each tenth is found by"
+                + " the fish as they are then", x -> {
+                    x.set(2, 0);
+                    fishOut(x, 1, 7);
+                    fishOut(x, 4, 7);
+                    fishOut(x, 3, 1);
+                    run(x, "b029;o");
+                    same("spot 3, below 74", x.spot(3, 1), 67);
+                    same("fish(2) of 100", x.fish(2), 26);
+                    same("7 of 74 go to the lower one", x.spot(1, 1), 18);
+                    same("67 are left then", x.spot(2, 1), 67);
+                    same("the upper one has no fewer then", x.spot(3, 1), 67);
+                    SealedSpots y = new SealedSpots();
+                    y.set(2, 12);
+                    fishOut(y, 1, 3);
+                    fishOut(y, 3, 2);
+                    run(y, "n;n;b029;o");
+                    same("spot 3, 1 below 99", y.spot(3, 1), 98);
+                    same("fish(2) of 148", y.fish(2), 38);
+                    same("11 of 110 go to the lower one", y.spot(1, 1), 100);
+                    same("then 9 of 99 to the upper one", y.spot(3, 1), 107);
+                    same("90 are left", y.spot(2, 1), 90);
+                    SealedSpots z = new SealedSpots();
+                    z.set(2, 0);
+                    fishOut(z, 3, 7);
+                    run(z, "b029;o;f2");
+                    same("none to a lower one with more", z.spot(1, 1), 100);
+                    same("7 of 74 to the upper one", z.spot(3, 1), 18);
+                });
     }
 
     private void night() {
@@ -775,6 +863,17 @@ final class TermsSentences extends Sentences {
             same("the hour", x.count(1), 0);
             same("bids", x.count(3), 0);
             for (int spot = 0; spot < 6; spot++) {
+                same("who has a spot", x.spot(spot, 2), NONE);
+                same("what was paid for it", x.spot(spot, 3), NONE);
+                same("the spot of a bidder", x.bidder(spot, 3), NONE);
+            }
+        });
+        test(10, "all bids are gone, spots are nobody's, and to the fish of each spot come as many", x -> {
+            fullDay(x, 0);
+            same("nextDay() of 5 to each", x.nextDay(), 30);
+            same("bids of 36", x.count(3), 0);
+            for (int spot = 0; spot < 6; spot++) {
+                same("fish behind a catch of 26", x.spot(spot, 1), 79);
                 same("who has a spot", x.spot(spot, 2), NONE);
                 same("what was paid for it", x.spot(spot, 3), NONE);
                 same("the spot of a bidder", x.bidder(spot, 3), NONE);
@@ -938,6 +1037,22 @@ final class TermsSentences extends Sentences {
                 });
     }
 
+    private void whatMayCome() {
+        test(13, "a character is a syntax error if no auction as a text, of any length, begins with the characters"
+                + " before it and this character", x -> {
+                    for (String row : MAY_COME) {
+                        String before = row.substring(0, row.indexOf(':'));
+                        String may = row.substring(row.indexOf(':') + 1);
+                        for (char code = 33; code <= 126; code++) {
+                            SealedSpots y = new SealedSpots();
+                            type(y, before + code + "!");
+                            int due = before.length() + (may.indexOf(code) < 0 ? 0 : 1);
+                            same("firstError() of " + before + code + "!", y.firstError(), due);
+                        }
+                    }
+                });
+    }
+
     private void undo() {
         test(17, "Each method that is marked \"undoable\" and does not throw an exception saves the state"
                 + " from before it", x -> {
@@ -1004,6 +1119,38 @@ final class TermsSentences extends Sentences {
             }
             same("the rank", x.bid(0, 0, 9), 657);
         });
+        test(17, "all, also what is counted so far", x -> {
+            List<Integer> first = state(make(y -> fullDay(y, 0)));
+            List<Integer> second = state(make(TermsSentences::twoDays));
+            // The same are only that the bids are opened, so none can be withdrawn, and how many there are.
+            same("numbers that differ", differingNumbers(first, second), first.size() - 36 - 14);
+            twoDays(x);
+            x.goBack();
+            isTrue("goBack() restoring all", state(x).equals(first));
+            SealedSpots undone = make(TermsSentences::twoDays);
+            undone.goBack();
+            undone.undo();
+            isTrue("undo() restoring all", state(undone).equals(second));
+        });
+        test(17, "all, also what is counted so far", x -> {
+            x.bid(0, 0, 5);
+            x.keep();
+            x.open();
+            x.goBack();
+            same("goBack() to bids that are not opened", x.count(2), 0);
+            same("the rank", x.bid(1, 0, 5), 365 + 41 + 6);
+            x.undo();
+            x.undo();
+            same("undo() to bids that are opened", x.count(2), 1);
+            x.keep();
+            x.nextDay();
+            x.goBack();
+            same("goBack() to bids that are opened", x.count(2), 1);
+            same("who got a spot", x.spot(0, 2), 0);
+            x.undo();
+            same("undo() to bids that are not opened", x.count(2), 0);
+            same("the rank", x.bid(1, 0, 5), 365 + 6);
+        });
         test(17, "but the buffer, the snapshot and the saved states", x -> {
             x.price(0, 6);
             x.price(0, 7);
@@ -1019,6 +1166,44 @@ final class TermsSentences extends Sentences {
             x.undo();
             same("the price before goBack()", x.spot(0, 0), 6);
         });
+    }
+
+    /** A day of 36 bids behind six withdrawn ones, opened and fished; no number of it is as on another such day. */
+    private static void fullDay(SealedSpots x, int day) {
+        for (int bidder = 0; bidder < 6; bidder++) {
+            x.pay(bidder, 60 + bidder);
+            payFee(x, bidder, bidder, 9 + bidder);
+            x.price(bidder, 4 + bidder + 9 * day);
+        }
+        x.pause(1 + 19 * day);
+        for (int i = 0; i < 36; i++) {
+            x.bid(i / 6, i % 6, 20 + (i + day) % 31);
+            if (i % 2 == 0) {
+                x.pause(1);
+            }
+        }
+        x.open();
+        for (int spot = 0; spot < 6; spot++) {
+            x.fish(spot);
+        }
+        x.set(0, 3 + day);
+        x.set(1, 4 + day);
+        x.set(2, 5 + day);
+    }
+
+    private static void twoDays(SealedSpots x) {
+        fullDay(x, 0);
+        x.keep();
+        x.nextDay();
+        fullDay(x, 1);
+    }
+
+    private static int differingNumbers(List<Integer> first, List<Integer> second) {
+        int differing = 0;
+        for (int i = 0; i < first.size(); i++) {
+            differing += first.get(i).equals(second.get(i)) ? 0 : 1;
+        }
+        return differing;
     }
 
     private void exceptions() {
